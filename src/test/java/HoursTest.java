@@ -257,6 +257,9 @@ public final class HoursTest {
         c.due("199 boards", y.round(), -1);
         y.run(1);
         c.due("the longest", y.round(), 100);
+        PumpCrossing longer = ruled(0, "keep when own=0 and since<2;up 99 when own=0;down 1;");
+        longer.run(250);
+        c.due("101 is too long", longer.round(), -1);
         PumpCrossing z = crossing(0, 0);
         Checks.rules(z, 0, "up 2 when own=0;down 1;");
         Checks.rules(z, 1, "up 34 when own=0;down 1;");

@@ -7,8 +7,8 @@ import java.util.function.LongSupplier;
 public final class ReferenceTest {
     private static final String[] TERMS = {"own", "least", "most", "cost", "hour", "day", "since", "rose", "fell"};
     private static final String[] ALL_WORDS = {"up", "down", "to", "below", "match", "keep", "when", "or", "and", "not",
-        "own", "least", "since", "once", "at", "cap", "told", "cost", ";", "<", "=", ">", "+", "-", "0", "7", "24", "99",
-        "100", "Up", "\u00e9", "ups", "\t", "12", "5"};
+        "own", "least", "since", "once", "at", "cap", "told", "cost", ";", "<", "=", ">", "+", "-", "0", "7", "24",
+        "99", "100", "Up", "\u00e9", "ups", "\t", "12", "5"};
 
     /** Rules by which prices go round, follow one another and follow costs. */
     private static final String[] KNOWN_WAYS = {"to 90 when own<cost+3;below 1;", "below 1 when least>cost+2;to 80;",
