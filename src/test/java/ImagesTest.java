@@ -92,7 +92,8 @@ public final class ImagesTest {
         int run = (int) x.count(2);
         return new long[] {x.count(0), x.count(1), x.count(2), x.count(3), x.count(4), x.count(5), x.count(6),
             x.count(7), x.count(9), x.price(0), x.price(1), x.would(0), x.would(1),
-            x.board(0, run - 1), x.board(1, run - 3), x.of(0, 0), x.of(0, 1), x.of(0, 2), x.of(1, 0), x.of(1, 1), x.of(1, 2), x.fills(0), x.round(),
+            x.board(0, run - 1), x.board(1, run - 3), x.of(0, 0), x.of(0, 1), x.of(0, 2),
+            x.of(1, 0), x.of(1, 1), x.of(1, 2), x.fills(0), x.round(),
             x.leads(0, false), x.gain(0, 1, 0, 1, false), x.gain(0, 1, 1, 0, true), x.reply(0, 1, 1), x.joint(0, 1),
             x.upper(), x.lower(), x.fit(0), x.fit(1)};
     }
