@@ -25,6 +25,7 @@ public final class GamesEdgesTest {
         throwsInOrder();
         askingChangesNothing();
         greatestGains();
+        othersPrices();
         repliesAtLikeOnes();
         evenPairs();
         evenAtLikeOnes();
@@ -240,6 +241,26 @@ public final class GamesEdgesTest {
         c.due("once", x.gains(0, 1, 0, 40, true), -3 * 99 * 99);
     }
 
+    /** "(others' PRICES as they are)": now, and not as they were told. */
+    private static void othersPrices() {
+        PumpCrossing x = new PumpCrossing();
+        for (int s = 0; s < 4; s++) {
+            x.station(10, 50, 0);
+        }
+        x.driver(1, 0, 4, 0);
+        x.driver(1, 0, 8, 1);
+        x.level(50);
+        x.level(51);
+        c.due("as told, at them", x.gain(0, 1, 0, 0, false), 80);
+        c.due("as told, one above", x.gain(0, 1, 1, 0, false), 41);
+        Checks.rules(x, 2, "down 1;");
+        Checks.rules(x, 3, "down 1;");
+        x.run(1);
+        c.due("as they are", x.gain(0, 1, 0, 0, false), 40);
+        c.due("as they are, one above", x.gain(0, 1, 1, 0, false), 0);
+        c.due("b of others", x.gain(0, 1, 1, 0, true), 0);
+    }
+
     /** "REPLY ...: LEVEL with the greatest GAIN; of like ones the least". */
     private static void repliesAtLikeOnes() {
         for (int j = 0; j < 8; j++) {
@@ -390,6 +411,10 @@ public final class GamesEdgesTest {
     /** "both begin at the highest LEVEL", "all 0 at first". */
     private static void beginAtTheHighest() {
         c.due("from 11 (else 10)", losses().learn(0, 1, 1, 1), 0);
+        c.due("a's table of 0s (else of 1s: 1)", losses().learn(0, 1, 8, 24), 11);
+        c.due("a's table of 0s (else of -1s: 11)", losses().learn(0, 1, 40, 71), 1);
+        c.due("b's table of 0s (else of 1s: 11)", losses().learn(0, 1, 10, 29), 10);
+        c.due("b's table of 0s (else of -1s: 1)", losses().learn(0, 1, 40, 25), 11);
         PumpCrossing x = game();
         c.due("the row of the highest alone is learnt", x.punish(0, 1, 1, 25, 1), 1);
         c.due("the other row is all 0", x.punish(0, 1, 1, 25, 0), 0);
@@ -411,7 +436,8 @@ public final class GamesEdgesTest {
         c.due("by 8 at the end (else 0)", losses().learn(0, 1, 4, 18), 11);
         c.due("7 m by 8 (else 11)", losses().learn(0, 1, 8, 15), 10);
         c.due("7 m by 8 and not 7 times m by 8 (else 11)", losses().learn(0, 1, 10, 87), 10);
-        c.due("8 GAIN (else 0)", losses().learn(0, 1, 5, 7), 11);
+        c.due("8 GAIN (else 10)", losses().learn(0, 1, 5, 7), 11);
+        c.due("8 GAIN and not 7 or 9 (else 1)", game().learn(0, 1, 20, 136), 0);
     }
 
     /** "Behind these NIGHTS ten more without DRAWS (tables stay)". */
@@ -446,21 +472,52 @@ public final class GamesEdgesTest {
         c.due("seed 11 is one of 20", x.above(0, 1, 30, 20), 1);
         c.due("300 nights", x.above(0, 1, 300, 11), 1);
         c.due("300 nights", x.above(0, 1, 300, 10), 0);
+        PumpCrossing y = priced(9, 0, 10, 16, 19);
+        y.driver(8, 1, 1, 0);
+        y.driver(5, 0, 3, 0);
+        c.due("seed 1 is asked", y.above(0, 1, 30, 1), 1);
+        PumpCrossing z = priced(0, 4, 12, 15, 21);
+        z.driver(7, 1, 1, 1);
+        z.driver(5, 1, 0, 2);
+        c.due("seeds 0 and 2 aren't asked", z.above(0, 1, 30, 1), 0);
+        c.due("seed 2 is asked", z.above(0, 1, 30, 2), 1);
+    }
+
+    private static PumpCrossing priced(int costOfA, int costOfB, int... levels) {
+        PumpCrossing x = new PumpCrossing();
+        x.station(costOfA, 50, 0);
+        x.station(costOfB, 50, 0);
+        for (int level : levels) {
+            x.level(level);
+        }
+        return x;
     }
 
     /** "a pair with GAINS together above those of the first EVEN pair": not at them, and not of another EVEN pair. */
     private static void aboveTheFirst() {
-        PumpCrossing x = new PumpCrossing();
-        x.station(8, 50, 0);
-        x.station(6, 50, 0);
+        PumpCrossing x = priced(8, 6, 10, 19, 28);
         x.driver(4, 0, 2, 0);
         x.driver(8, 1, 3, 1);
-        x.level(10);
-        x.level(19);
-        x.level(28);
         c.due("the first", x.even(0, 1, 0), 0);
         c.due("the second", x.even(0, 1, 1), 11);
         c.due("above the first (at it: 19, above the second: 2)", x.above(0, 1, 30, 20), 11);
+        PumpCrossing y = priced(0, 7, 13, 19, 27);
+        y.driver(3, 0, 1, 0);
+        y.driver(2, 1, 3, 2);
+        y.driver(8, 1, 2, 3);
+        c.due("the first is uneven", y.even(0, 1, 0), 12);
+        c.due("above it", y.above(0, 1, 30, 20), 4);
+        PumpCrossing z = priced(7, 6, 13, 15, 24);
+        z.driver(7, 0, 3, 2);
+        z.driver(2, 1, 3, 2);
+        z.driver(9, 0, 0, 1);
+        c.due("the first is uneven", z.even(0, 1, 0), 21);
+        c.due("above it", z.above(0, 1, 30, 20), 2);
+        PumpCrossing own = alike(8);
+        own.driver(1, 0, 0, 0);
+        own.driver(1, 1, 0, 0);
+        c.due("the first is the last pair of all", own.even(0, 1, 0), 77);
+        c.due("none is above it", own.above(0, 1, 300, 20), 0);
         c.due("all alike: none is above", alike(8).above(0, 1, 300, 20), 0);
     }
 

@@ -166,6 +166,18 @@ public final class HoursEdgesTest {
         c.due("match", ruled(40, 60, "match;").would(0), 60);
         PumpCrossing x = two("to 9 when least=70 and most=70;", "keep;");
         c.due("with another one", x.would(0), 50);
+        PumpCrossing dear = ruled(40, 1, "match;");
+        dear.station(40, 99, 0);
+        c.due("another one at its most", dear.would(0), 99);
+        Checks.rules(dear, 0, "to 9 when most=99;");
+        c.due("another one at its most", dear.would(0), 9);
+        Checks.rules(dear, 1, "to 9 when least=1 and most=1;");
+        c.due("another one, too", dear.would(1), 9);
+        PumpCrossing cheap = ruled(40, 50, "match;");
+        cheap.station(40, 0, 0);
+        c.due("another one at its least", cheap.would(0), 0);
+        Checks.rules(cheap, 0, "to 9 when most=0;");
+        c.due("another one at its least", cheap.would(0), 9);
     }
 
     /** "hour t mod 24". */
@@ -358,6 +370,17 @@ public final class HoursEdgesTest {
         x.law(0);
         c.due("told no more", x.fills(1), 0);
         c.due("told no more", x.fills(2), 2);
+        PumpCrossing y = new PumpCrossing();
+        y.station(40, 50, 0);
+        y.station(40, 60, 0);
+        y.driver(1, 1, 0, 0);
+        y.driver(1, 0, 0, 0);
+        c.due("the first isn't known", y.fills(0), 1);
+        Checks.law(y, "told;");
+        c.due("the first is known", y.fills(0), 0);
+        c.due("none but those that are there", y.fills(1), 0);
+        y.run(1);
+        c.due("both fill there", y.of(0, 1), 2);
     }
 
     /** "PROFIT ... grows by MANY times (PRICE less COST)", which may be below 0; "PAID (of all) by MANY times PRICE". */
@@ -478,6 +501,21 @@ public final class HoursEdgesTest {
         c.due("the last station", x.round(), -1);
         x.run(1);
         c.due("the last station, too", x.round(), 1);
+        PumpCrossing four = new PumpCrossing();
+        for (int s = 0; s < 4; s++) {
+            four.station(40, 50 + s, 0);
+        }
+        Checks.rules(four, 0, "up 1 when own<51;down 1;");
+        Checks.rules(four, 3, "up 1 when own<99;to 0;");
+        run(four, 150);
+        c.due("the last of four goes up", four.round(), -1);
+        Checks.rules(four, 3, "keep;");
+        run(four, 2);
+        c.due("it stands in three boards", four.round(), -1);
+        run(four, 1);
+        c.due("it stands in four boards", four.round(), 2);
+        run(four, 512 - 153);
+        c.due("512 hours", four.round(), 2);
     }
 
     private static PumpCrossing fourBoards(String rules) {
@@ -523,6 +561,12 @@ public final class HoursEdgesTest {
         c.due("boards 9 to 264", leads(two(once, "keep;"), 265, false), 0);
         c.due("boards 8 to 263", leads(two(once, "up 1 when hour=16 and own=50;"), 264, true), 1);
         c.due("boards 9 to 264", leads(two(once, "up 1 when hour=16 and own=50;"), 265, true), 0);
+        c.due("none behind the last board", leads(two("down 1;", "keep;"), 300, false), 0);
+        PumpCrossing four = two("up 1 when hour=15 and day=3;", "keep;");
+        four.station(40, 99, 0);
+        four.station(40, 99, 0);
+        Checks.rules(four, 3, "down 1 when hour>15;");
+        c.due("four stations, hours 87 and 255 of 0 to 255", leads(four, 256, false), 2);
     }
 
     /** "(with the 6 behind there) behind which in 6 HOURS". */
@@ -545,6 +589,14 @@ public final class HoursEdgesTest {
             x.station(40, 50, 0);
             Checks.rules(x, 2, o[1]);
             c.due(o[0] + " " + o[1], leads(x, 20, true), Integer.parseInt(o[2]));
+        }
+        int[] hours = {6, 7, 11, 12};
+        for (int hour : hours) {
+            PumpCrossing x = two("up 1 when hour=6;", "up 1 when hour=5;");
+            Checks.rules(x, 0, "up 1 when hour=" + hour + ";");
+            x.run(20);
+            c.due("station 1 leads", x.leads(1, false), 1);
+            c.due("station 0 follows in hour " + hour, x.leads(1, true), hour < 12 ? 1 : 0);
         }
         PumpCrossing alone = ruled(40, 50, "up 1 when hour=5;");
         c.due("no other one", leads(alone, 11, true), 0);

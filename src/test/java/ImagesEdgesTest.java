@@ -35,6 +35,7 @@ public final class ImagesEdgesTest {
         imagesOfNothing();
         imagesOfEverything();
         imagesOfFull();
+        imagesOfTwoWays();
         imagesAreKept();
         cutOffBoardsComeBack();
         countsAsked();
@@ -310,6 +311,81 @@ public final class ImagesEdgesTest {
         c.due("no level more", x.level(99), -1);
         c.due("no rise more", x.rise(0, 0, 0), -1);
         c.due("no row more", x.told(1, 1, 1, 1), -1);
+    }
+
+    /** From a new object two ways are gone; the first comes back whole, whatever was told on the second. */
+    private static void imagesOfTwoWays() {
+        PumpCrossing x = new PumpCrossing();
+        x.image(2);
+        goFirstWay(x);
+        x.image(0);
+        x.restore(2);
+        goSecondWay(x);
+        x.image(1);
+        for (int way = 0; way < 2; way++) {
+            x.restore(way);
+            PumpCrossing twin = new PumpCrossing();
+            if (way == 0) {
+                goFirstWay(twin);
+            } else {
+                goSecondWay(twin);
+            }
+            List<String> got = wayAnswers(x);
+            List<String> want = wayAnswers(twin);
+            c.due("way " + way + ": " + got + ", due " + want, got.equals(want), true);
+        }
+    }
+
+    private static void goFirstWay(PumpCrossing x) {
+        x.station(40, 60, 3);
+        x.station(30, 70, 2);
+        x.driver(3, 0, 3, 2);
+        x.driver(4, 1, 1, 9);
+        Checks.rules(x, 0, "match;");
+        Checks.rules(x, 1, "up 1 when hour=1;up 3;");
+        Checks.law(x, "cap 90;");
+        x.level(50);
+        x.level(60);
+        x.rise(3, 4, -1);
+        Checks.tray(x, 0, 0, 0, 1, 2, 3, 4, 5, 6, 7, 8, 9, 0, 1, 2, 3, 4, 5, 6, 7, 8, 9, 0);
+        Checks.tray(x, 1, 0, 9, 8, 7, 6, 5, 4, 3, 2, 1, 9, 8, 7, 6, 5, 4, 3, 2, 1, 9, 8, 7);
+        x.story(0, 0);
+        x.story(1, 1);
+        x.told(60, 70, 0, 0);
+        x.told(70, 71, 0, 0);
+        x.run(1);
+        x.cost(1, 33);
+        x.run(2);
+    }
+
+    private static void goSecondWay(PumpCrossing x) {
+        x.station(10, 20, 0);
+        x.station(11, 21, 1);
+        x.driver(9, 1, 0, 0);
+        x.driver(8, 0, 2, 1);
+        Checks.rules(x, 0, "up 5;");
+        Checks.rules(x, 1, "to 9;");
+        Checks.law(x, "told;cap 7;");
+        x.level(11);
+        x.level(15);
+        x.rise(7, 9, -1);
+        Checks.tray(x, 0, 0, 9, 8, 7, 6, 5, 4, 3, 2, 1, 9, 8, 7, 6, 5, 4, 3, 2, 1, 9, 8, 7);
+        Checks.tray(x, 1, 0, 0, 1, 2, 3, 4, 5, 6, 7, 8, 9, 0, 1, 2, 3, 4, 5, 6, 7, 8, 9, 0);
+        x.story(0, 0);
+        x.story(1, 1);
+        x.told(20, 21, 0, 0);
+        x.told(25, 9, 0, 0);
+        x.run(2);
+        x.cost(0, 44);
+        x.run(1);
+    }
+
+    private static List<String> wayAnswers(PumpCrossing x) {
+        // Of all answers those of trays, the tape and the images are left out, which no image keeps.
+        List<String> all = Twins.answers(x);
+        all.removeIf(a -> a.contains("tray") || a.startsWith("write") || a.startsWith("image") || a.contains("restore")
+                || a.startsWith("fault") || a.startsWith("upper") || a.startsWith("lower") || a.contains("tape"));
+        return all;
     }
 
     /** "as it was": what goes on behind image() or restore() isn't the IMAGE's. */

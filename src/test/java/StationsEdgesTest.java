@@ -285,6 +285,17 @@ public final class StationsEdgesTest {
         c.due("alike", x.fills(1), 0);
         c.due("no detour to its habit", x.fills(2), 1);
         c.due("isn't known", x.fills(3), 0);
+        PumpCrossing y = new PumpCrossing();
+        y.station(40, 60, 0);
+        y.station(40, 50, 0);
+        y.station(40, 49, 0);
+        y.driver(1, 0, 6, 2);
+        c.due("two detours, the second one less dear", y.fills(0), 2);
+        PumpCrossing z = new PumpCrossing();
+        z.station(40, 10, 0);
+        z.station(40, 50, 0);
+        z.driver(1, 1, 2, 0);
+        c.due("the first station isn't known", z.fills(0), 1);
     }
 
     // ---- Promise 4
@@ -337,6 +348,29 @@ public final class StationsEdgesTest {
         x.cost(1, 60);
         c.due("ten are kept of eleven", x.count(9), 10);
         c.due("the first of eleven is gone", x.passed(0, 1, true), false);
+        tenOfTwelveChanges();
+    }
+
+    /** Station s has its cost changed by s + 1 upwards in each of three hours; the first two changes are cut off. */
+    private static void tenOfTwelveChanges() {
+        PumpCrossing x = new PumpCrossing();
+        for (int s = 0; s < 4; s++) {
+            x.station(10, 10, 0);
+            Checks.rules(x, s, "up 1 when hour>1;");
+        }
+        x.run(1);
+        for (int k = 0; k < 3; k++) {
+            for (int s = 0; s < 4; s++) {
+                x.cost(s, 10 + (k + 1) * (s + 1));
+            }
+            x.run(1);
+        }
+        // Prices rose in hours 2 and 3: changes ahead of hours 1, 2, 3 had 0, 1, 1 passed on in their hour.
+        long[][] due = {{2, 2}, {2, 4}, {2, 9}, {2, 12}};
+        for (int s = 0; s < 4; s++) {
+            c.due("passed by " + s, x.passed(s, 1, true), true);
+            c.due("upper of " + s, x.upper() * due[s][1], x.lower() * due[s][0]);
+        }
     }
 
     // ---- Promise 5

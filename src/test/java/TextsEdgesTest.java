@@ -167,6 +167,9 @@ public final class TextsEdgesTest {
         c.due("no end at 400", rules(sum + "+0", -12, 400), 60);
         c.due("a wrong one at 399", rules(sum + " ?", -11, 399), 60);
         c.due("400 tokens", rules("to9when" + "1<2and".repeat(65) + "3;;", -12, 398), 60);
+        c.due("a word cut off at 400", rules(" ".repeat(399) + "u", -12, 399), 60);
+        c.due("a number cut off at 400", rules(" ".repeat(395) + "to 99", -12, 400), 60);
+        law(" ".repeat(397) + "tol", -12, 397);
         law("told;".repeat(80), 80, -1);
         law("told;".repeat(79) + "told ", -12, 400);
         law("told;".repeat(79) + "told?", -11, 399);
@@ -245,6 +248,8 @@ public final class TextsEdgesTest {
     /** "(N 0 to 99.)" in E. */
     private static void numbersOfTerms() {
         c.due("0 and 99", rules("to 9 when 99-0=99 and 0<1 and 00=0;", 1, -1), 9);
+        c.due("each adds once", rules("to 9 when 5+7+1=13 and 13-5-7=1;", 1, -1), 9);
+        c.due("a sign holds for one sum", rules("to 9 when 1=2-1 and 2=2 and 5-1=4;", 1, -1), 9);
         c.due("sums go beyond", rules("to 9 when 99+99>99+98 and 0-99<0-98;", 1, -1), 9);
         rules("to 9 when 100=1;", -11, 10);
         rules("to 9 when 1=100;", -11, 12);
@@ -399,6 +404,8 @@ public final class TextsEdgesTest {
         c.due("4 nots", rules("to 9 when not not not not 1=1;", 1, -1), 9);
         rules("to 9 when not not not not not 1=1;", -14, 26);
         c.due("not open any more", rules("to 9 when not not not not 1=1 and not 1=2;", 1, -1), 9);
+        c.due("not holds for one C", rules("to 9 when not 1=1 or 1=1;", 1, -1), 9);
+        c.due("not holds for one C", rules("to 9 when not 1=2 and 1=1;", 1, -1), 9);
         c.due("4 twice", rules("to 9 when not not not not 1=2 or not not not not 1=1;", 1, -1), 9);
         rules("to 9 when 1=2 or not not not not not 1=1;", -14, 33);
         c.due("4 in two rules", rules("up 1 when not not not not 1=2;to 9 when not not not not 1=1;", 2, -1), 9);
