@@ -50,6 +50,7 @@ public final class HoursEdgesTest {
         passedTheOtherWay();
         passedByLeastNumbers();
         passedFalse();
+        latestFraction();
         c.end();
     }
 
@@ -704,5 +705,22 @@ public final class HoursEdgesTest {
         x.station(40, 60, 0);
         c.due("no change", x.passed(0, 1, true), false);
         fraction("none", x, 0, 0);
+    }
+
+    /** "of the latest FRACTION ...; 0 without any": by passed() or by odds(), whichever came last. */
+    private static void latestFraction() {
+        PumpCrossing x = ruled(40, 60, "up 3;");
+        fraction("without any", x, 0, 0);
+        x.run(1);
+        x.cost(0, 42);
+        x.run(1);
+        x.odds();
+        fraction("by odds", x, 1, 1);
+        c.due("passed", x.passed(0, 1, true), true);
+        fraction("by passed", x, 3, 2);
+        c.due("not passed", x.passed(0, 2, true), false);
+        fraction("still by passed", x, 3, 2);
+        x.odds();
+        fraction("by odds again", x, 1, 1);
     }
 }
