@@ -438,6 +438,14 @@ public final class GamesEdgesTest {
         c.due("7 m by 8 and not 7 times m by 8 (else 11)", losses().learn(0, 1, 10, 87), 10);
         c.due("8 GAIN (else 10)", losses().learn(0, 1, 5, 7), 11);
         c.due("8 GAIN and not 7 or 9 (else 1)", game().learn(0, 1, 20, 136), 0);
+        PumpCrossing x = priced(35, 32, 29, 31, 33);
+        x.driver(2, 0, 3, 3);
+        x.driver(1, 1, 3, 3);
+        c.due("7 m by 8, and not 64 GAIN and 7 m by 8 (else 22)", x.learn(0, 1, 43, 11), 12);
+        PumpCrossing y = priced(60, 57, 59, 61);
+        y.driver(1, 0, 3, 3);
+        y.driver(3, 1, 3, 3);
+        c.due("7 m by 8, and not 64 GAIN and 7 m by 8 (else 1)", y.punish(0, 1, 25, 1, 0), 0);
     }
 
     /** "Behind these NIGHTS ten more without DRAWS (tables stay)". */

@@ -13,6 +13,9 @@ public final class GamesTest {
         likeOnes();
         turns();
         turnsOfOther();
+        turnsUpAndDown();
+        turnsOfThreeLevels();
+        turnsOfFourLevels();
         learners();
         manyBeginnings();
         withoutLevels();
@@ -210,6 +213,65 @@ public final class GamesTest {
         c.due("4 times 3 times 30", x.gains(0, 1, 0, 4, false), 360);
         c.due("0 once and 3 times 4 times 20", x.gains(0, 1, 0, 4, true), 240);
         c.due("from 1: 40 and 240", x.gains(0, 1, 1, 4, true), 280);
+    }
+
+    private static void turnsUpAndDown() {
+        PumpCrossing x = new PumpCrossing();
+        x.station(12, 50, 0);
+        x.station(5, 50, 0);
+        x.driver(2, 1, 0, 0);
+        x.driver(4, 0, 2, 0);
+        x.level(10);
+        x.level(20);
+        // a: 00 -8, 01 -8, 10 0, 11 32. b: 00 10, 01 30, 10 30, 11 30.
+        // Turn 3: b sets 1 behind 0, and 0 behind 1, of like ones. Turn 2: a sets 1: 0 behind 0, 32 behind 1.
+        // Turn 1: b has 60 more by either: behind 0 it sets 1, behind 1 the least, 0; a has 24 by 0 and 0 by 1.
+        // Turn 0: by 0 a has -8 and 24, by 1 it has 0 behind 0 and 32 behind 1.
+        int[][] due = {{0, 1, 1, 0, 16, 100}, {1, 0, 1, 0, 32, 120}};
+        turnsOf(x, due, 4);
+    }
+
+    private static void turnsOfThreeLevels() {
+        PumpCrossing x = new PumpCrossing();
+        x.station(0, 50, 0);
+        x.station(10, 50, 0);
+        x.driver(4, 0, 1, 2);
+        x.driver(6, 0, 2, 2);
+        x.level(10);
+        x.level(15);
+        x.level(20);
+        // By a program of its own, that tries all rows of levels.
+        int[][] due = {{0, 0, 2, 1, 1, 510, 30}, {1, 0, 2, 1, 1, 520, 30}, {2, 0, 2, 1, 1, 590, 30}};
+        turnsOf(x, due, 5);
+    }
+
+    private static void turnsOfFourLevels() {
+        PumpCrossing x = new PumpCrossing();
+        x.station(50, 60, 0);
+        x.station(50, 60, 0);
+        x.driver(10, 0, 3, 1);
+        x.driver(10, 1, 3, 1);
+        x.level(54);
+        x.level(57);
+        x.level(60);
+        x.level(63);
+        // By the same program. Each goes below the other one, but up to the highest when it doesn't pay any more.
+        int[][] four = {{0, 3, 2, 1, 320, 180}, {0, 3, 2, 1, 360, 140}, {0, 3, 2, 1, 360, 140}, {0, 3, 2, 1, 360, 140}};
+        turnsOf(x, four, 4);
+        int[][] six = {{0, 0, 0, 3, 2, 1, 400, 260}, {0, 0, 0, 3, 2, 1, 440, 220}, {1, 0, 0, 3, 2, 1, 460, 260},
+            {2, 1, 0, 3, 2, 1, 560, 280}};
+        turnsOf(x, six, 6);
+    }
+
+    /** By where b stands ahead: the levels of h turns, and the gains of a and b. */
+    private static void turnsOf(PumpCrossing x, int[][] due, int h) {
+        for (int j = 0; j < due.length; j++) {
+            for (int k = 0; k < h; k++) {
+                c.due("b at " + j + ", turn " + k + " of " + h, x.turn(0, 1, j, h, k), due[j][k]);
+            }
+            c.due("b at " + j + ", gains of a in " + h, x.gains(0, 1, j, h, false), due[j][h]);
+            c.due("b at " + j + ", gains of b in " + h, x.gains(0, 1, j, h, true), due[j][h + 1]);
+        }
     }
 
     private static void learners() {

@@ -35,6 +35,7 @@ public final class HoursEdgesTest {
         kindsAsked();
         boardsThere();
         boardsOf256();
+        hoursPast256();
         whatIsAsked();
         roundsOfFewBoards();
         roundsOfHundred();
@@ -447,6 +448,21 @@ public final class HoursEdgesTest {
         for (int t = 1; t < 257; t++) {
             c.due("board " + t, x.board(0, t), (t + 1) % 100);
         }
+    }
+
+    /** "the latest 256 of them": BOARDS are cut off, HOURS go on counting, in of, would and changes of COST, too. */
+    private static void hoursPast256() {
+        PumpCrossing x = ruled(40, 60, "to 70 when hour=12 and day=5;up 1 when hour=11;");
+        x.run(300);
+        // Set to 70 in hour 132 (day 5), then up in hours 155, 179, .. 299; hour 300 is hour 12 of day 12, which is 5.
+        c.due("behind hour 299", x.price(0), 77);
+        c.due("changed in hour 299", x.of(0, 2), 1);
+        c.due("in hour 300", x.would(0), 70);
+        x.cost(0, 33);
+        x.run(1);
+        c.due("passed from hour 299 to hour 300", x.passed(0, 1, false), true);
+        fraction("7 by 7", x, 1, 1);
+        c.due("board 300", x.board(0, 300), 70);
     }
 
     /** "what 0 ..., 1 ..., 2 ... IllegalArgumentException: another what", told behind the STATION. */

@@ -36,6 +36,7 @@ public final class StoriesEdgesTest {
         usedBehindFilling();
         theFirstRow();
         dearestFilling();
+        shorterBehindLonger();
         toldWithoutStations();
         toldPrices();
         toldNotAsked();
@@ -370,6 +371,20 @@ public final class StoriesEdgesTest {
         Arrays.fill(all, 99);
         row("a tank of one", 1, 0, all, 28 * 99, 1, 1, 1);
         row("a tank of twelve, full", 12, 12, all, 16 * 99, 0, 0, 0);
+    }
+
+    /** A call that is made behind others answers as if it were the first. */
+    private static void shorterBehindLonger() {
+        PumpCrossing x = new PumpCrossing();
+        long[] all = new long[28];
+        Arrays.fill(all, 9);
+        Checks.tray(x, 0, 0, all);
+        Checks.tray(x, 1, 0, 9, 9, 9);
+        c.due("28 days, 12 in it", x.fill(0, 12, 12, -1), 16 * 9);
+        for (int f = 0; f <= 12; f++) {
+            c.due("three days, " + f + " in it", x.fill(1, 12, f, -1), 9 * Math.max(0, 3 - f));
+            c.due("on the last of them", x.fill(1, 12, f, 2), f < 3 ? 1 : 0);
+        }
     }
 
     // ---- Promise 35
